@@ -36,7 +36,7 @@ public final class CycleSynthesis {
     private static final int TOO_MANY = 3;
 
     private final Tape tape;
-    private final Compiler compiler;
+    private final Translator translator;
     private final Layer layer;
     private final Machine machine;
     private Program program;
@@ -44,7 +44,7 @@ public final class CycleSynthesis {
 
     public CycleSynthesis() {
         tape = new Tape();
-        compiler = new Compiler(tape);
+        translator = new Translator(tape);
         layer = new Layer();
         machine = new Machine();
         program = new Program();
@@ -73,7 +73,7 @@ public final class CycleSynthesis {
     }
 
     public int compile() {
-        if (!compiler.translate(spare)) {
+        if (!translator.translate(spare)) {
             return NONE;
         }
         Program old = program;
@@ -85,11 +85,11 @@ public final class CycleSynthesis {
     }
 
     public int fault() {
-        return compiler.fault;
+        return translator.fault;
     }
 
     public int place() {
-        return compiler.place;
+        return translator.place;
     }
 
     public int told(int what) throws IllegalArgumentException {
@@ -602,7 +602,7 @@ public final class CycleSynthesis {
      * Cuts the tape into operations and blocks. Its methods answer false, or BROKEN, once a fault
      * is met; the limits on open brackets and braces keep them from calling one another too deep.
      */
-    private static final class Compiler {
+    private static final class Translator {
         private static final int MOST_BRACES = 10;
         private static final int MOST_BRACKETS = 20;
 
@@ -614,7 +614,7 @@ public final class CycleSynthesis {
         int fault;
         int place;
 
-        Compiler(Tape tape) {
+        Translator(Tape tape) {
             reader = new Reader(tape);
             ways = new Ways();
             place = NONE;
@@ -657,7 +657,7 @@ public final class CycleSynthesis {
                 return write();
             }
             int variable = reader.seenVariable();
-            return variable == NONE ? refuseNext(STRAY) : assignment(variable);
+            return variable == NONE ? refuseHere(STRAY) : assignment(variable);
         }
 
         private boolean assignment(int variable) {
@@ -749,7 +749,7 @@ public final class CycleSynthesis {
                 return false;
             }
             if (braces == MOST_BRACES) {
-                return refuseNext(TOO_MANY);
+                return refuseHere(TOO_MANY);
             }
             braces++;
             reader.pass(1);
@@ -814,7 +814,7 @@ public final class CycleSynthesis {
             }
             int variable = reader.seenVariable();
             if (variable == NONE) {
-                refuseNext(STRAY);
+                refuseHere(STRAY);
                 return Operand.BROKEN;
             }
             reader.pass(1);
@@ -843,7 +843,7 @@ public final class CycleSynthesis {
                 return Operand.BROKEN;
             }
             if (brackets == MOST_BRACKETS) {
-                refuseNext(TOO_MANY);
+                refuseHere(TOO_MANY);
                 return Operand.BROKEN;
             }
             brackets++;
@@ -869,7 +869,7 @@ public final class CycleSynthesis {
         }
 
         private boolean meets(int sign) {
-            return reader.look() == sign || refuseNext(STRAY);
+            return reader.look() == sign || refuseHere(STRAY);
         }
 
         private boolean passes(int sign) {
@@ -880,8 +880,7 @@ public final class CycleSynthesis {
             return true;
         }
 
-        private boolean refuseNext(int why) {
-            reader.look();
+        private boolean refuseHere(int why) {
             return refuse(why, reader.place);
         }
 

@@ -19,6 +19,8 @@ public final class FaultTest {
         theFirstFaultCounts();
         faultsAreOfTheLastCompile();
         aFaultChangesNothing();
+        whatAFaultLeftOpenIsForgotten();
+        manyCompiles();
         Checks.finish();
     }
 
@@ -110,6 +112,8 @@ public final class FaultTest {
     private static void strayWords() {
         Checks.dueFault("ab=1;", STRAY, 0);
         Checks.dueFault("a=bc;", STRAY, 2);
+        Checks.dueFault("az=1;", STRAY, 0);
+        Checks.dueFault("za=1;", STRAY, 0);
         Checks.dueFault("a=1+  hh;", STRAY, 6);
         Checks.dueFault("mm[1]=1;", STRAY, 0);
         Checks.dueFault("am[1]=1;", STRAY, 0);
@@ -311,5 +315,31 @@ public final class FaultTest {
         Checks.due("at()", x.at(), NONE);
         Checks.due("cycles()", x.cycles(), 0);
         Checks.due("a", x.get(0), 1);
+    }
+
+    private static void whatAFaultLeftOpenIsForgotten() {
+        CycleSynthesis x = new CycleSynthesis();
+        String braces = "if 1{".repeat(10);
+        Checks.due("compile()", Checks.compile(x, braces + "a=" + "(".repeat(20) + ";"), NONE);
+        Checks.due("place()", x.place(), 72);
+        String both = braces + "a=" + "(".repeat(20) + "1" + ")".repeat(20) + ";" + "}".repeat(10);
+        Checks.due("compile()", Checks.compile(x, both), 1);
+        Checks.due("fault()", x.fault(), 0);
+        Checks.due("told(0)", x.told(0), 11);
+    }
+
+    /** Whatever a program needs rows for, it must not be less for those that come later. */
+    private static void manyCompiles() {
+        CycleSynthesis x = new CycleSynthesis();
+        Checks.compile(x, "if1{}".repeat(137) + "a=1+1*1;");
+        for (int i = 0; i < 300; i++) {
+            Checks.due("compile()", x.compile(), 2);
+        }
+        Checks.due("told(0)", x.told(0), 138);
+        x.feed(1, '}');
+        for (int i = 0; i < 50; i++) {
+            Checks.due("compile()", x.compile(), NONE);
+        }
+        Checks.due("told(0)", x.told(0), 138);
     }
 }

@@ -14,7 +14,7 @@ public final class LanguageTest {
         "\\bsynchronized\\b", "\\bassert\\b", "\\binstanceof\\b", "\\bSystem\\b", "\\bThread\\b", "\\bRandom\\b",
         "\\bInteger\\b", "\\bLong\\b", "\\bArrays\\b", "\\bprotected\\b", "\\bstatic\\s*\\{", "\\.equals\\(",
         "\\bhashCode\\b", "\\btoString\\b", "\\bnew (?!IllegalArgumentException|IndexOutOfBoundsException"
-            + "|int\\[|int\\[\\]|Operation\\b|Block\\b|Tape\\b|Compiler\\b|Layer\\b|Machine\\b|Program\\b"
+            + "|int\\[|int\\[\\]|Operation\\b|Block\\b|Tape\\b|Translator\\b|Layer\\b|Machine\\b|Program\\b"
             + "|Reader\\b|Ways\\b)",
         "\\bMath\\.(?!min\\(|max\\()", "while \\(true\\)", "for \\(;;\\)", "[^\\x00-\\x7f]"};
 

@@ -10,6 +10,9 @@ public final class ThrownProgramsTest {
         for (int i = 0; i < PROGRAMS; i++) {
             check(dice, i % 10 == 0 ? 120 : 25);
         }
+        for (int i = 0; i < 200; i++) {
+            checkOneObject(dice);
+        }
         Checks.due("programs with 20 operations and 5 blocks at least", shapes > PROGRAMS / 10 ? 1 : 0, 1);
         Checks.finish();
     }
@@ -33,6 +36,44 @@ public final class ThrownProgramsTest {
         checkTold(told, made(text, many, latency, dice, model), model);
         checkBlocks(told, made(text, many, latency, dice, model), model);
         checkRun(told, made(text, many, latency, dice, model), model, dice);
+    }
+
+    /** One program after the other, some with faults between them, must answer as new objects do. */
+    private static void checkOneObject(Dice dice) {
+        CycleSynthesis x = new CycleSynthesis();
+        for (int i = 0; i < 6; i++) {
+            List<Tree.Statement> program = new Tree.Thrower(dice, i % 2 == 0 ? 30 : 8).statements(0);
+            String text = new Tree.Writer(dice).write(program);
+            if (text.length() > 180) {
+                continue;
+            }
+            if (dice.oneIn(3)) {
+                Checks.due("compile() of a fault", Checks.compile(x, "while a+1{b=1;if c{"), -1);
+            }
+            CycleSynthesis fresh = new CycleSynthesis();
+            Checks.due("compile() of " + text, Checks.compile(x, text), Checks.compile(fresh, text));
+            for (int what = 0; what <= 6; what++) {
+                Checks.due(text + ": told(" + what + ")", x.told(what), fresh.told(what));
+            }
+            for (int block = 0; block < fresh.told(0) && block < 3; block++) {
+                for (int what = 0; what <= 4; what++) {
+                    Checks.due(text + ": block(" + block + ", " + what + ")", x.block(block, what),
+                        fresh.block(block, what));
+                }
+            }
+            for (int cell = 0; cell < 16; cell++) {
+                x.poke(cell, 0);
+            }
+            for (int variable = 0; variable < 4; variable++) {
+                x.set(variable, 2);
+                fresh.set(variable, 2);
+            }
+            Checks.due(text + ": run(90)", x.run(90), fresh.run(90));
+            Checks.due(text + ": at()", x.at(), fresh.at());
+            for (int variable = 0; variable < 4; variable++) {
+                Checks.due(text + ": get(" + variable + ")", x.get(variable), fresh.get(variable));
+            }
+        }
     }
 
     /** The units are set before the program comes, or behind it. */
