@@ -869,7 +869,7 @@ public final class CycleSynthesis {
         }
 
         private boolean meets(int sign) {
-            return reader.look() == sign || refuseHere(STRAY);
+            return reader.look() == sign || refuse(STRAY, reader.place);
         }
 
         private boolean passes(int sign) {

@@ -15,6 +15,14 @@ final class Checks {
         }
     }
 
+    static void same(String what, String got, String want) {
+        done++;
+        if (!got.equals(want)) {
+            wrong++;
+            System.out.println(what + ": '" + got + "', due is '" + want + "'");
+        }
+    }
+
     static void throwing(String what, Class<? extends RuntimeException> want, Runnable call) {
         done++;
         Class<?> got = null;
@@ -37,16 +45,29 @@ final class Checks {
         throwing(what, IndexOutOfBoundsException.class, call);
     }
 
-    /** Feeds a text, each of its characters as one byte. */
+    /** Feeds a text onto an empty tape, each of its characters as one byte. */
     static void feed(CycleSynthesis x, String text) {
         for (int from = 0; from < text.length(); from += 8) {
-            int n = Math.min(8, text.length() - from);
-            long bytes = 0;
-            for (int i = 0; i < n; i++) {
-                bytes |= (long) (text.charAt(from + i) & 255) << (8 * i);
-            }
-            due("feed of '" + text.substring(from, from + n) + "'", x.feed(n, bytes), from + n);
+            String part = text.substring(from, Math.min(from + 8, text.length()));
+            due("feed of '" + part + "'", x.feed(part.length(), packed(part)), from + part.length());
         }
+    }
+
+    /** Feeds a text onto a tape that has something. */
+    static void feedBehind(CycleSynthesis x, String text) {
+        for (int from = 0; from < text.length(); from += 8) {
+            String part = text.substring(from, Math.min(from + 8, text.length()));
+            x.feed(part.length(), packed(part));
+        }
+    }
+
+    /** Up to eight characters as the bytes of a long, the first one as the lowest. */
+    static long packed(String text) {
+        long bytes = 0;
+        for (int i = 0; i < text.length(); i++) {
+            bytes |= (text.charAt(i) & 255L) << (8 * i);
+        }
+        return bytes;
     }
 
     static int compile(CycleSynthesis x, String text) {
