@@ -455,8 +455,7 @@ public final class LayingEdgesTest {
             Checks.due("operation(0, " + what + ")", x.operation(0, what), first[what]);
             Checks.due("operation(1, " + what + ")", x.operation(1, what), second[what]);
         }
-        CycleSynthesis second1 = Checks.made("while a{b=c;}");
-        Checks.due("its block", second1.operation(0, 1), 1);
+        Checks.due("its block", Checks.made("while a{b=c;}").operation(0, 1), 1);
     }
 
     /** "Methods throw what their comments name, the one named first when several would do". */

@@ -7,6 +7,8 @@ public final class RunEdgesTest {
     private static final int MIN = Integer.MIN_VALUE;
     private static final int MAX = Integer.MAX_VALUE;
     private static final int MOST = 5000;
+    private static final int[] INTS = {0, 1, -1, 2, -2, 15, 16, 17, 32767, 32768, 65535, 65536, MAX - 1, MAX, MIN,
+        MIN + 1};
 
     public static void main(String[] args) {
         variablesHoldInts();
@@ -38,9 +40,6 @@ public final class RunEdgesTest {
         theLongestRuns();
         Checks.finish();
     }
-
-    private static final int[] INTS = {0, 1, -1, 2, -2, 15, 16, 17, 32767, 32768, 65535, 65536, MAX - 1, MAX, MIN,
-        MIN + 1};
 
     /** "VARIABLES a .. h ... hold ints." */
     private static void variablesHoldInts() {
